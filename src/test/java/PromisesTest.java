@@ -283,6 +283,9 @@ final class PromisesTest {
             CHECKS.same("select in " + wrong, x.select(wrong, true, -1), NONE);
             CHECKS.same("placeIn " + wrong, x.placeIn(wrong, 0), NONE);
         }
+        CHECKS.same("the last 1 of 64", full().select(0, true, 31), 63);
+        CHECKS.same("the last 0 of 64", full().select(0, false, 31), 60);
+        CHECKS.same("no 1 behind it", full().select(0, true, 32), NOTHING);
         CHECKS.same("placeIn(0, 3)", x.placeIn(0, 3), 3);
         CHECKS.same("placeIn(1, 0)", x.placeIn(1, 0), 13);
         CHECKS.same("placeIn(1, 1)", x.placeIn(1, 1), 0);
@@ -350,6 +353,12 @@ final class PromisesTest {
         CHECKS.same("find(0, 1)", x.find(0, 1), 5);
         CHECKS.same("find(31, 0)", x.find(31, 0), 1);
         CHECKS.same("find(30, 0)", x.find(30, 0), NOTHING);
+        LetterShelves y = full();
+        for (int weight = 0; weight < 32; weight++) {
+            CHECKS.same("find(" + weight + ", 0)", y.find(weight, 0), weight * 13 % 32);
+            CHECKS.same("find(" + weight + ", 1)", y.find(weight, 1), weight * 13 % 32 + 32);
+            CHECKS.same("find(" + weight + ", 2)", y.find(weight, 2), NOTHING);
+        }
         CHECKS.same("find(9, -1)", x.find(9, -1), NOTHING);
         CHECKS.same("find(9, max)", x.find(9, Integer.MAX_VALUE), NOTHING);
         for (int wrong : WRONG_WEIGHTS) {
@@ -439,6 +448,9 @@ final class PromisesTest {
         CHECKS.same("text", x.account(9), 0);
         CHECKS.same("run", run(x, "put 31;in 0 05;in 1 9;mark 1;mark 2;swap 0;out 2"), 7);
         CHECKS.sameText("tell", told(x), "9|5");
+        CHECKS.same("rows after run", x.weightAgain(0), 9);
+        CHECKS.same("rows after run", x.find(5, 0), 1);
+        CHECKS.same("bags after run", x.bagOf(1, 2), 5);
         CHECKS.same("clear", run(x, "clear 1"), 1);
         CHECKS.sameText("tell", told(x), "95");
         CHECKS.same("put", run(x, "put 0;put 00;put 1;put 01"), 4);
@@ -589,6 +601,8 @@ final class PromisesTest {
         for (int wrong : WRONG_ROWS) {
             CHECKS.sameDouble("oneShare(" + wrong + ")", x.oneShare(wrong), 0.0);
         }
+        CHECKS.sameDouble("one letter", with(7).meanWeight(), 7.0);
+        CHECKS.sameDouble("one letter", with(7).oneShare(2), 1.0);
         CHECKS.sameDouble("without letters", with().meanWeight(), 0.0);
         CHECKS.sameDouble("without letters", with().oneShare(0), 0.0);
     }
