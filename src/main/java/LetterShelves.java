@@ -741,48 +741,42 @@ public final class LetterShelves {
 
         /** The count of a bit ahead of a place: block by block, and by what is left. */
         int ahead(int row, boolean isOne, int place) {
-            int block = place / BLOCK;
-            int sum = aheadOfBlock(row, isOne, block);
-            for (int left = block * BLOCK; left < place; left++) {
-                if (bitAt(row, left) == 1 == isOne) {
-                    sum++;
-                }
+            if (!isRow(row) || place < 0 || place > size) {
+                return 0;
             }
-            return sum;
+            int block = place / BLOCK;
+            long left = (wholes[row] >>> block * BLOCK) & ((1L << place % BLOCK) - 1L);
+            int ones = onesAtBlocks[row][block] + Long.bitCount(left);
+            return isOne ? ones : place - ones;
         }
 
         /** The same count, place by place. */
         int aheadOneByOne(int row, boolean isOne, int place) {
             int sum = 0;
             for (int earlier = 0; earlier < place && earlier < size; earlier++) {
-                if (bitAt(row, earlier) == 1 == isOne) {
+                if (isThere(row, isOne, earlier)) {
                     sum++;
                 }
             }
             return sum;
         }
 
-        private int aheadOfBlock(int row, boolean isOne, int block) {
-            if (!isRow(row) || block < 0 || block >= EDGES) {
-                return 0;
-            }
-            int ones = onesAtBlocks[row][block];
-            // the last block may not be full, and no place behind the letters has a bit
-            return isOne ? ones : Math.min(block * BLOCK, size) - ones;
+        private boolean isThere(int row, boolean isOne, int place) {
+            return bitAt(row, place) == (isOne ? 1 : 0);
         }
 
         /** The place of a bit by how many of its kind are ahead, or -1. */
         int placeOf(int row, boolean isOne, int ahead) {
-            if (ahead < 0 || ahead >= aheadOfBlock(row, isOne, EDGES - 1)) {
+            if (ahead < 0 || ahead >= ahead(row, isOne, size)) {
                 return -1;
             }
-            int block = 0;
-            while (block < EDGES - 1 && aheadOfBlock(row, isOne, block + 1) <= ahead) {
-                block++;
+            int begin = 0;
+            while (begin + BLOCK < size && ahead(row, isOne, begin + BLOCK) <= ahead) {
+                begin += BLOCK;
             }
-            int left = ahead - aheadOfBlock(row, isOne, block);
-            for (int place = block * BLOCK; place < size; place++) {
-                if (bitAt(row, place) == 1 == isOne) {
+            int left = ahead - ahead(row, isOne, begin);
+            for (int place = begin; place < size; place++) {
+                if (isThere(row, isOne, place)) {
                     if (left == 0) {
                         return place;
                     }
@@ -829,9 +823,7 @@ public final class LetterShelves {
             for (int row = 0; row < ROWS; row++) {
                 int withZero = ahead(row, false, end) - ahead(row, false, begin);
                 boolean isOne = left >= withZero;
-                if (isOne) {
-                    left -= withZero;
-                }
+                left -= isOne ? withZero : 0;
                 sum = sum * 2 + (isOne ? 1 : 0);
                 begin = down(row, isOne, begin);
                 end = down(row, isOne, end);
