@@ -80,6 +80,10 @@ final class FaceTest {
         for (Class<?> type : types) {
             CHECKS.isTrue(type + " is private", Modifier.isPrivate(type.getModifiers()));
             CHECKS.isTrue(type + " is static", Modifier.isStatic(type.getModifiers()));
+            for (Method method : type.getDeclaredMethods()) {
+                CHECKS.isTrue(method + " has a name of its own",
+                        Arrays.stream(CALLS).noneMatch(call -> call.contains(" " + method.getName() + "(")));
+            }
             for (Field field : type.getDeclaredFields()) {
                 CHECKS.isTrue(field + " is no static state",
                         !Modifier.isStatic(field.getModifiers()) || Modifier.isFinal(field.getModifiers()));
