@@ -1,14 +1,5 @@
 /** For each promise: ordinary inputs, the edges that the document names, and wrong inputs. */
-final class PromisesTest {
-    private static final int NONE = -11;
-    private static final int BAD = -12;
-    private static final int FULL = -13;
-    private static final int REFUSED = -14;
-    private static final int NOTHING = -15;
-    private static final int[] WRONG_WEIGHTS = {-1, 32, 64, Integer.MIN_VALUE, Integer.MAX_VALUE};
-    private static final int[] WRONG_ROWS = {-1, 5, 64, Integer.MIN_VALUE, Integer.MAX_VALUE};
-    private static final Checks CHECKS = new Checks();
-
+final class PromisesTest extends Trial {
     private PromisesTest() {
     }
 
@@ -38,49 +29,6 @@ final class PromisesTest {
         undoing();
         snapshots();
         CHECKS.end();
-    }
-
-    private static LetterShelves with(int... weights) {
-        LetterShelves x = new LetterShelves();
-        for (int weight : weights) {
-            x.put(weight);
-        }
-        return x;
-    }
-
-    private static LetterShelves full() {
-        LetterShelves x = new LetterShelves();
-        for (int place = 0; place < 64; place++) {
-            x.put(place * 5 % 32);
-        }
-        return x;
-    }
-
-    private static void write(LetterShelves x, String text) {
-        for (int index = 0; index < text.length(); index++) {
-            x.append(text.charAt(index));
-        }
-    }
-
-    private static int run(LetterShelves x, String text) {
-        write(x, text);
-        return x.run();
-    }
-
-    private static String line(LetterShelves x, int size) {
-        StringBuilder line = new StringBuilder();
-        for (int index = 0; index < size; index++) {
-            line.append((char) x.character(index));
-        }
-        return line.toString();
-    }
-
-    private static String told(LetterShelves x) {
-        return line(x, x.tell());
-    }
-
-    private static String toldRow(LetterShelves x, int row) {
-        return line(x, x.tellRow(row));
     }
 
     private static void newObject() {
