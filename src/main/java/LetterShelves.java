@@ -684,6 +684,9 @@ public final class LetterShelves {
         }
 
         private void fillRow(int row) {
+            if (!isRow(row)) {
+                return;
+            }
             long whole = 0L;
             int ones = 0;
             for (int place = 0; place <= MOST_LETTERS; place++) {
@@ -702,7 +705,7 @@ public final class LetterShelves {
         private void sortByBit(int row) {
             int laid = gather(row, false, 0);
             gather(row, true, laid);
-            for (int place = 0; place < size && place < order.length; place++) {
+            for (int place = 0; place < size && place < order.length && place < nextOrder.length; place++) {
                 order[place] = nextOrder[place];
             }
         }
@@ -741,7 +744,7 @@ public final class LetterShelves {
 
         /** The count of a bit ahead of a place: block by block, and by what is left. */
         int ahead(int row, boolean isOne, int place) {
-            if (!isRow(row) || place < 0 || place > size) {
+            if (!isRow(row) || place < 0 || place > size || place > MOST_LETTERS) {
                 return 0;
             }
             int block = place / BLOCK;

@@ -32,6 +32,7 @@ final class RestEdgesTest extends Trial {
         restoreStays();
         restoreWithoutUndo();
         restoreManyAndFew();
+        textAndLineStay();
         CHECKS.end();
     }
 
@@ -317,7 +318,7 @@ final class RestEdgesTest extends Trial {
     }
 
     private static void undoIsNoChange() {
-        CHECKS.begin("Changes: undo, save, restore, append, tell and reads are none");
+        CHECKS.begin("Changes: undo, save, append, tell and what is asked for are none");
         LetterShelves x = with(4, 5, 6);
         x.undo();
         x.save();
@@ -486,6 +487,29 @@ final class RestEdgesTest extends Trial {
         }
         CHECKS.same("undo", x.undo(), NOTHING);
         CHECKS.same("letters", x.account(0), 14);
+    }
+
+    private static void textAndLineStay() {
+        CHECKS.begin("Codes: the text and the line are neither undone nor saved, and stay");
+        LetterShelves x = with(4, 5);
+        write(x, "put ");
+        x.tell();
+        x.save();
+        x.put(6);
+        write(x, "7");
+        x.tellRow(4);
+        CHECKS.same("undo", x.undo(), 2);
+        CHECKS.same("the text after undo", x.account(9), 5);
+        CHECKS.sameText("the line after undo", line(x, 3), "010");
+        CHECKS.same("restore", x.restore(), 2);
+        CHECKS.same("the text after restore", x.account(9), 5);
+        CHECKS.sameText("the line after restore", line(x, 3), "010");
+        CHECKS.same("the text is whole", x.run(), 1);
+        CHECKS.same("restore", x.restore(), 2);
+        CHECKS.same("the text that was emptied", x.account(9), 0);
+        run(x, "put 8");
+        CHECKS.same("undo", x.undo(), 0);
+        CHECKS.same("the text is not undone", x.account(9), 0);
     }
 
     private static void restoreManyAndFew() {
