@@ -62,6 +62,14 @@ final class BalanceTest extends Trial {
         weights[1] = 4;
         weights[2] = 30;
         CHECKS.same("as it was", x.isBalanced(), 1);
+        // the way of the only letter finds zeros one place too late, where weights by size find none
+        LetterShelves y = with(31);
+        int[] zeros = numbers(inside(y, "rows"), "zeros");
+        zeros[0]++;
+        CHECKS.same("quantile", y.quantile(0, 1, 0), 31);
+        CHECKS.same("isBalanced", y.isBalanced(), 0);
+        zeros[0]--;
+        CHECKS.same("as it was", y.isBalanced(), 1);
     }
 
     private static void countsAtBlocks() throws Exception {

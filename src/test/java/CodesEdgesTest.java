@@ -219,7 +219,8 @@ final class CodesEdgesTest extends Trial {
 
     private static void textsThatAreWrong() {
         CHECKS.begin("Codes: a wrong text leaves everything unchanged, except that run empties the text");
-        String[] texts = {"", "put", "put 7;", "put 7;in 0 3x", "out 0;out 0;out 0;", "mark 2;clear", SIXTY.substring(0, 59) + "x"};
+        String[] texts = {"", "put", "put 7;", "put 7;in 0 3x", "out 0;out 0;out 0;", "mark 2;clear",
+            SIXTY.substring(0, 59) + "x"};
         int[] due = {-1000, -1003, -1006, -1012, -1018, -1012, -1059};
         for (int index = 0; index < texts.length; index++) {
             String text = texts[index];
@@ -229,8 +230,8 @@ final class CodesEdgesTest extends Trial {
 
     private static void ordersThatFail() {
         CHECKS.begin("Codes: orders of which one fails leave everything unchanged, but for text and reasons");
-        String[] texts = {"put 32", "put 7;in 0 3;out 63", "out 0;out 0;out 0;out 0;out 0;out 0;out 0", "mark 2;clear 2;clear 2",
-            "swap 0;swap 0;swap 63", "clear 1;clear 40;mark 63;mark 64"};
+        String[] texts = {"put 32", "put 7;in 0 3;out 63", "out 0;out 0;out 0;out 0;out 0;out 0;out 0",
+            "mark 2;clear 2;clear 2", "swap 0;swap 0;swap 63", "clear 1;clear 40;mark 63;mark 64"};
         int[] due = {0, 2, 6, 2, 2, 3};
         for (int index = 0; index < texts.length; index++) {
             String text = texts[index];
